@@ -915,10 +915,14 @@ public final class PacketLaw {
 
         /** Takes a bracket or a not, unless so many are open already. */
         private boolean takeOpen(int wanted, int open) {
-            if (token == wanted && open >= MOST_OPEN) {
+            if (token != wanted) {
+                return fail(1);
+            }
+            if (open >= MOST_OPEN) {
                 return fail(3);
             }
-            return take(wanted);
+            step();
+            return true;
         }
 
         private boolean readClause() {
@@ -1084,10 +1088,9 @@ public final class PacketLaw {
             if (token == '[') {
                 return takeOpen('[', open) && readEither(open + 1) && take(']');
             }
-            return readSum(open) && readRelation(open);
-        }
-
-        private boolean readRelation(int open) {
+            if (!readSum(open)) {
+                return false;
+            }
             int sign = token == '<' ? BELOW : token == '>' ? ABOVE : EQUAL;
             if (token != '<' && token != '>' && token != '=') {
                 return fail(1);

@@ -234,6 +234,9 @@ public final class PromisesTest {
         text("leasts 1;", 1, 0);
         text("lea 1;", 1, 0);
         text("leas", 1, 0);
+        text("leastz 1;", 1, 0);
+        text("zleast 1;", 1, 0);
+        text("orphans aschemes;", 1, 8);
         text("least(1);", 1, 5);
         text("least paper 1;", 1, 6);
         text("least 1 2;", 1, 8);
@@ -830,6 +833,11 @@ public final class PromisesTest {
         x.years(30);
         x.declare(0, 0, 30, 1000);
         Checks.due("in force from a later year", 50, () -> Checks.tried(x, 0, 30, "fee paper=50;"));
+        String longest = "fee paper=1" + times("+1", 194) + ";";
+        for (int i = 0; i < 15; i++) {
+            Checks.due("the longest text, time and again", 195, () -> Checks.tried(x, 0, 30, longest));
+            Checks.due("the same, spoilt", -9, () -> Checks.tried(x, 0, 30, longest.replace(';', '+')));
+        }
     }
 
     private static void promise21() {
@@ -953,6 +961,19 @@ public final class PromisesTest {
         Checks.due("grams of all six: 105*10.5, cut, and 50", 1152, () -> x.cheapest(0, 0, -1));
         Checks.law(x, 0, "ban paper if grams=100;");
         Checks.due("the sixth is no part of a row", 1152, () -> x.cheapest(0, 0, -1));
+        x.make(5, 1, 1, 1, 1, 0, 1000);
+        x.made(5, 2);
+        x.sold(5, 0, 0, 0, 1);
+        Checks.law(x, 0, "fee paper=layers*1000;");
+        Checks.due("the sixth has the most layers: 50 and 5 kilograms", 70, () -> x.cheapest(0, 0, -1));
+        x.packet(0);
+        x.packet(0);
+        x.make(7, 1, 0, 0, 0, 0, 1);
+        Checks.due("a seventh without makes, an eighth", 70, () -> x.cheapest(0, 0, -1));
+        x.packet(1);
+        x.make(8, 5, 0, 0, 0, 0, 1);
+        x.sold(8, 0, 1, 0, 1);
+        Checks.due("another maker has none of these layers", 6, () -> x.cheapest(1, 0, -1));
         // what was declared is replaced for this maker alone, in shares and in small
         PacketLaw y = withMakers(2);
         y.packet(0);
@@ -1185,6 +1206,10 @@ public final class PromisesTest {
         Checks.dueThrow("glass -1", ARGUMENT, () -> x.load(0, 1, 0, -1, 0, 0, 0));
         Checks.dueThrow("tin -1", ARGUMENT, () -> x.load(0, 1, 0, 0, -1, 0, 0));
         Checks.dueThrow("film -1", ARGUMENT, () -> x.load(0, 1, 50, 0, 0, -1, 0));
+        PacketLaw y = new PacketLaw();
+        Checks.due("all of glass", 0, () -> y.load(0, 1, 0, 100, 0, 0, 0));
+        Checks.due("all of tin", 1, () -> y.load(0, 1, 0, 0, 100, 0, 0));
+        Checks.due("all of film", 2, () -> y.load(0, 1, 0, 0, 0, 100, 0));
         Checks.dueThrow("101 together", ARGUMENT, () -> x.load(0, 1, 25, 25, 25, 26, 0));
         Checks.dueThrow("parts that wrap", ARGUMENT, () -> x.load(0, 1, HIGHEST, HIGHEST, 2, 0, 0));
         Checks.dueThrow("loss 51", ARGUMENT, () -> x.load(0, 1, 0, 0, 0, 0, 51));
