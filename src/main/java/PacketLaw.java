@@ -659,7 +659,6 @@ public final class PacketLaw {
         return false;
     }
 
-    /** Tries every row of makes, the first packet's make turning slowest. */
     private void choose(int maker, int year) {
         look(year, now);
         lawfulRates(maker, year);
@@ -671,49 +670,50 @@ public final class PacketLaw {
                 addToRest(packets.makeOf(p), year);
             }
         }
-        int rows = choice.rows();
-        for (int row = 0; row < rows; row++) {
-            tryRow(row);
-        }
+        chooseFrom(0, 0);
     }
 
     private void addToChoice(int packet, int year) {
-        int base = choice.addPacket(packets.makes[packet]);
+        int cell = choice.addPacket(packets.makes[packet]);
         for (int i = 0; i < packets.makes[packet]; i++) {
             int make = packet * MOST_MAKES + i;
-            choice.isOut[base + i] = isBanned(make, year);
-            choice.coins[base + i] = packets.coinsOf(make, year);
-            choice.layers[base + i] = packets.layersOf(make);
+            choice.isOut[cell + i] = isBanned(make, year);
+            choice.coins[cell + i] = packets.coinsOf(make, year);
+            choice.layers[cell + i] = packets.layersOf(make);
             for (int sort = 0; sort < SORTS; sort++) {
-                choice.kilos[(base + i) * SORTS + sort] = packetKilos(make, sort, year);
-                choice.grams[(base + i) * SORTS + sort] = packets.gramsOf(make, sort);
+                choice.kilos[(cell + i) * SORTS + sort] = packetKilos(make, sort, year);
+                choice.grams[(cell + i) * SORTS + sort] = packets.gramsOf(make, sort);
             }
         }
     }
 
+    /** The packets behind the chosen ones stand in all rows, as they are made. */
     private void addToRest(int make, int year) {
         for (int sort = 0; sort < SORTS; sort++) {
-            choice.restKilos[sort] += packetKilos(make, sort, year);
-            choice.restGrams[sort] += packets.gramsOf(make, sort);
+            choice.sumKilos[sort] += packetKilos(make, sort, year);
+            choice.sumGrams[sort] += packets.gramsOf(make, sort);
         }
-        choice.restLayers = Math.max(choice.restLayers, packets.layersOf(make));
+        choice.sumLayers[0] = Math.max(choice.sumLayers[0], packets.layersOf(make));
     }
 
-    private void tryRow(int row) {
-        if (!choice.setRow(row)) {
-            return;
-        }
-        long coins = choice.rowCoins();
+    /** Tries all makes of a chosen packet and of those behind it, the first ones first. */
+    private void chooseFrom(int packet, long coins) {
         // A fee is never below 0: a row that costs as much already can't be less.
         if (choice.total >= 0 && coins >= choice.total) {
             return;
         }
-        for (int sort = 0; sort < SORTS; sort++) {
-            rates.own[sort] = choice.rowKilos(sort);
-            rates.grams[sort] = choice.rowGrams(sort);
+        if (packet >= choice.count) {
+            choice.copyInto(rates);
+            choice.offerTotal(coins + rates.total(laws));
+            return;
         }
-        rates.layers = choice.rowLayers();
-        choice.offerTotal(coins + rates.total(laws));
+        for (int make = 0; make < choice.makes[packet]; make++) {
+            int cell = packet * MOST_MAKES + make;
+            if (!choice.isOut[cell]) {
+                choice.putInRow(packet, make);
+                chooseFrom(packet + 1, coins + choice.coins[cell]);
+            }
+        }
     }
 
     /** What a scheme has of the orphans, by what look() has laid out. */
@@ -1580,38 +1580,40 @@ public final class PacketLaw {
 
         int count;
         long total;
-        int restLayers;
-        final int[] restKilos;
-        final int[] restGrams;
+        final int[] makes;
         final int[] best;
         final boolean[] isOut;
         final int[] coins;
         final int[] layers;
         final int[] kilos;
         final int[] grams;
-        private final int[] makes;
+        // What so many packets of the row come to, from none to all: each sum is made from the one before.
+        final int[] sumKilos;
+        final int[] sumGrams;
+        final int[] sumLayers;
         private final int[] row;
 
         Choice() {
-            restKilos = new int[SORTS];
-            restGrams = new int[SORTS];
+            makes = new int[CHOSEN_PACKETS];
             best = new int[CHOSEN_PACKETS];
+            row = new int[CHOSEN_PACKETS];
             isOut = new boolean[CELLS];
             coins = new int[CELLS];
             layers = new int[CELLS];
             kilos = new int[CELLS * SORTS];
             grams = new int[CELLS * SORTS];
-            makes = new int[CHOSEN_PACKETS];
-            row = new int[CHOSEN_PACKETS];
+            sumKilos = new int[(CHOSEN_PACKETS + 1) * SORTS];
+            sumGrams = new int[(CHOSEN_PACKETS + 1) * SORTS];
+            sumLayers = new int[CHOSEN_PACKETS + 1];
         }
 
         void clear() {
             count = 0;
             total = NONE;
-            restLayers = 0;
+            sumLayers[0] = 0;
             for (int sort = 0; sort < SORTS; sort++) {
-                restKilos[sort] = 0;
-                restGrams[sort] = 0;
+                sumKilos[sort] = 0;
+                sumGrams[sort] = 0;
             }
         }
 
@@ -1622,68 +1624,33 @@ public final class PacketLaw {
             return (count - 1) * MOST_MAKES;
         }
 
-        int rows() {
-            int rows = 1;
-            for (int p = 0; p < count; p++) {
-                rows *= makes[p];
+        void putInRow(int packet, int make) {
+            int cell = packet * MOST_MAKES + make;
+            row[packet] = make;
+            sumLayers[packet + 1] = Math.max(sumLayers[packet], layers[cell]);
+            for (int sort = 0; sort < SORTS; sort++) {
+                int at = packet * SORTS + sort;
+                sumKilos[at + SORTS] = sumKilos[at] + kilos[cell * SORTS + sort];
+                sumGrams[at + SORTS] = sumGrams[at] + grams[cell * SORTS + sort];
             }
-            return rows;
         }
 
-        /** Sets the cells of a row by its number; false if a make in it is banned. */
-        boolean setRow(int number) {
-            int left = number;
-            for (int p = count - 1; p >= 0; p--) {
-                int many = Math.max(1, makes[p]);
-                row[p] = p * MOST_MAKES + left % many;
-                left /= many;
-                if (isOut[row[p]]) {
-                    return false;
-                }
+        void copyInto(Fee fee) {
+            fee.layers = sumLayers[count];
+            for (int sort = 0; sort < SORTS; sort++) {
+                fee.own[sort] = sumKilos[count * SORTS + sort];
+                fee.grams[sort] = sumGrams[count * SORTS + sort];
             }
-            return true;
         }
 
-        long rowCoins() {
-            long sum = 0;
-            for (int p = 0; p < count; p++) {
-                sum += coins[row[p]];
-            }
-            return sum;
-        }
-
-        int rowKilos(int sort) {
-            int sum = restKilos[sort];
-            for (int p = 0; p < count; p++) {
-                sum += kilos[row[p] * SORTS + sort];
-            }
-            return sum;
-        }
-
-        int rowGrams(int sort) {
-            int sum = restGrams[sort];
-            for (int p = 0; p < count; p++) {
-                sum += grams[row[p] * SORTS + sort];
-            }
-            return sum;
-        }
-
-        int rowLayers() {
-            int most = restLayers;
-            for (int p = 0; p < count; p++) {
-                most = Math.max(most, layers[row[p]]);
-            }
-            return most;
-        }
-
-        /** The row that is set comes to so much: it is the best if that is less than before. */
+        /** The row comes to so much: it is the best if that is less than before. */
         void offerTotal(long itsTotal) {
             if (total >= 0 && itsTotal >= total) {
                 return;
             }
             total = itsTotal;
             for (int p = 0; p < count; p++) {
-                best[p] = row[p] - p * MOST_MAKES;
+                best[p] = row[p];
             }
         }
     }
@@ -1799,6 +1766,9 @@ public final class PacketLaw {
     /** The offers, and for whom and what year they were bought, and when. */
     private static final class Offers {
         private int count;
+        private int best;
+        private int bestPrice;
+        private int bestKilos;
         private final int[] sort;
         private final int[] kilos;
         private final int[] price;
@@ -1847,16 +1817,6 @@ public final class PacketLaw {
             return sum;
         }
 
-        private int kilosOf(int set) {
-            int sum = 0;
-            for (int i = 0; i < count; i++) {
-                if ((set >> i & 1) == 1) {
-                    sum += kilos[i];
-                }
-            }
-            return sum;
-        }
-
         void sell(int set, int scheme, int year, int now) {
             for (int i = 0; i < count; i++) {
                 if ((set >> i & 1) == 1) {
@@ -1877,39 +1837,38 @@ public final class PacketLaw {
             return sum;
         }
 
-        private int usable(int itsSort) {
-            int set = 0;
-            for (int i = 0; i < count; i++) {
-                if (buyer[i] == NONE && sort[i] == itsSort) {
-                    set |= 1 << i;
-                }
-            }
-            return set;
-        }
-
         /** Of all sets that have enough the least price's; NONE if there is none. */
         int bestSet(int itsSort, long enough) {
-            int usable = usable(itsSort);
-            int best = NONE;
-            for (int set = 1; set < 1 << count; set++) {
-                if ((set & ~usable) == 0 && kilosOf(set) >= enough && (best < 0 || isBetter(set, best))) {
-                    best = set;
-                }
-            }
+            best = NONE;
+            bestPrice = 0;
+            bestKilos = 0;
+            pick(0, 0, 0, 0, enough, itsSort);
             return best;
         }
 
-        private boolean isBetter(int set, int best) {
-            int dearer = priceOf(set) - priceOf(best);
-            if (dearer != 0) {
-                return dearer < 0;
+        /**
+         * Goes on with a set from an offer on: with that offer first, so that of alike sets the first is found first.
+         * A set that has enough needs no more offers: they would make it heavier, and no cheaper.
+         */
+        private void pick(int offer, int set, int itsPrice, int itsKilos, long enough, int itsSort) {
+            if (best >= 0 && itsPrice > bestPrice) {
+                return;
             }
-            int heavier = kilosOf(set) - kilosOf(best);
-            if (heavier != 0) {
-                return heavier < 0;
+            if (itsKilos >= enough) {
+                if (best < 0 || itsPrice < bestPrice || itsKilos < bestKilos) {
+                    best = set;
+                    bestPrice = itsPrice;
+                    bestKilos = itsKilos;
+                }
+                return;
             }
-            int differ = set ^ best;
-            return (set & differ & -differ) != 0;
+            if (offer >= count) {
+                return;
+            }
+            if (buyer[offer] == NONE && sort[offer] == itsSort) {
+                pick(offer + 1, set | 1 << offer, itsPrice + price[offer], itsKilos + kilos[offer], enough, itsSort);
+            }
+            pick(offer + 1, set, itsPrice, itsKilos, enough, itsSort);
         }
     }
 
