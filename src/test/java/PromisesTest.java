@@ -974,6 +974,14 @@ public final class PromisesTest {
         x.make(8, 5, 0, 0, 0, 0, 1);
         x.sold(8, 0, 1, 0, 1);
         Checks.due("another maker has none of these layers", 6, () -> x.cheapest(1, 0, -1));
+        PacketLaw v = withMakers(1);
+        for (int p = 0; p < 7; p++) {
+            v.packet(0);
+            v.make(p, 1, 0, 0, p == 5 ? 1 : 0, 0, 0);
+        }
+        v.sold(0, 0, 10, 0, 1);
+        Checks.law(v, 0, "fee paper=layers*1000;");
+        Checks.due("the most layers of the sixth and seventh: 10 by 2", 20, () -> v.cheapest(0, 0, -1));
         // what was declared is replaced for this maker alone, in shares and in small
         PacketLaw y = withMakers(2);
         y.packet(0);
