@@ -89,6 +89,10 @@ final class Checks {
         }
     }
 
+    static String times(String text, int many) {
+        return text.repeat(many);
+    }
+
     static int law(PacketLaw x, int year, String text) {
         put(x, text);
         return x.law(year, text.length());

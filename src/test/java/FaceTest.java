@@ -25,6 +25,8 @@ public final class FaceTest {
         members(names);
         classes(names);
         words(source);
+        library(source);
+        loops(source);
         throwsAlone(source);
         lengths(source);
         Checks.end();
@@ -112,6 +114,41 @@ public final class FaceTest {
         while (imports.find()) {
             Checks.judge("an import", "import java.util.NoSuchElementException;", imports.group());
         }
+    }
+
+    private static void library(String source) {
+        Checks.part("rule 4");
+        Matcher calls = Pattern.compile("\\b([A-Z]\\w*)\\.(\\w+)\\(").matcher(source);
+        while (calls.find()) {
+            Checks.judge(calls.group(), "true", String.valueOf(calls.group().matches("(Math\\.(min|max)|(WORDS|SIGNS)\\.(length|charAt|indexOf))\\(")));
+        }
+        Matcher made = Pattern.compile("(?m)^.*\\bnew (\\w+)(.).*$").matcher(source);
+        while (made.find()) {
+            boolean isComment = made.group().strip().startsWith("/**");
+            boolean isThrow = made.group().strip().startsWith("throw new ");
+            boolean isField = made.group().matches(" +\\w+ = new \\w+[\\[(].*[\\])];");
+            Checks.judge(made.group().strip(), "true", String.valueOf(isComment || isThrow || isField));
+        }
+    }
+
+    private static void loops(String source) {
+        Checks.part("rule 9");
+        Matcher loops = Pattern.compile("\\bfor \\(([^;]*);([^;]*);([^)]*)\\)").matcher(source);
+        int many = 0;
+        while (loops.find()) {
+            boolean counts = loops.group(2).matches(" \\w+ (<|<=|>=) .*") && loops.group(3).matches(" \\w+(\\+\\+|--| -= 8)");
+            Checks.judge(loops.group(), "true", String.valueOf(counts));
+            many++;
+        }
+        Checks.judge("loops were found", "true", String.valueOf(many > 50));
+        Matcher whiles = Pattern.compile("\\bwhile \\((\\w+) < [^)]*").matcher(source);
+        int tested = 0;
+        while (whiles.find()) {
+            String body = source.substring(whiles.end(), source.indexOf("}", whiles.end()));
+            Checks.judge(whiles.group(), "true", String.valueOf(body.contains(whiles.group(1) + "++;")));
+            tested++;
+        }
+        Checks.judge("each while is one of these", String.valueOf(source.split("\\bwhile\\b").length - 1), String.valueOf(tested));
     }
 
     private static void throwsAlone(String source) {

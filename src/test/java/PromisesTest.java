@@ -834,7 +834,7 @@ public final class PromisesTest {
         x.declare(0, 0, 30, 1000);
         Checks.due("in force from a later year", 50, () -> Checks.tried(x, 0, 30, "fee paper=50;"));
         String longest = "fee paper=1" + times("+1", 194) + ";";
-        for (int i = 0; i < 15; i++) {
+        for (int i = 0; i < 9; i++) {
             Checks.due("the longest text, time and again", 195, () -> Checks.tried(x, 0, 30, longest));
             Checks.due("the same, spoilt", -9, () -> Checks.tried(x, 0, 30, longest.replace(';', '+')));
         }
