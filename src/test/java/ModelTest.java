@@ -19,12 +19,14 @@ public final class ModelTest {
     private final int run;
     private final int busyYears;
     private final boolean manyMakers;
+    private final boolean manyPackets;
 
     private ModelTest(int run) {
         this.run = run;
         random = new Random(run * 7919L);
         busyYears = 1 + random.nextInt(4);
         manyMakers = random.nextBoolean();
+        manyPackets = run % 5 == 4;
     }
 
     public static void main(String[] args) {
@@ -40,6 +42,10 @@ public final class ModelTest {
         start();
         while (told.size() < CALLS) {
             String name = NAMES[random.nextInt(NAMES.length)];
+            if (manyPackets && name.equals("make")) {
+                // the model is slow where there are many rows of makes
+                name = "sold";
+            }
             if (name.equals("text")) {
                 // behind the 512th call all answers are free
                 if (told.size() + CALLS_OF_A_TEXT <= CALLS) {
@@ -66,6 +72,27 @@ public final class ModelTest {
         for (int i = 0; i < makers; i++) {
             same("join", i, random.nextInt(3), 0);
         }
+        if (manyPackets) {
+            startPackets();
+        }
+    }
+
+    /** So many packets that some stand behind the first five, of each one make or two; sold in the first years. */
+    private void startPackets() {
+        for (int i = 0; i < 12; i++) {
+            same("packet", random.nextInt(3) == 0 ? 1 : 0);
+        }
+        for (int p = 0; p < 16; p++) {
+            for (int i = random.nextInt(20) == 0 ? 0 : 1 + random.nextInt(2); i > 0; i--) {
+                int[] args = makeArguments();
+                args[0] = p;
+                same("make", args);
+            }
+            for (int year = 0; year < 3; year++) {
+                same("sold", p, year, random.nextInt(200), 0, 1);
+            }
+        }
+        same("years", random.nextInt(3));
     }
 
     private static final String[] NAMES = {"years", "text", "text", "feed", "law", "fault", "tells", "why", "maker", "packet",

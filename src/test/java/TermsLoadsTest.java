@@ -14,6 +14,7 @@ public final class TermsLoadsTest {
         forgedByLoadAndSort();
         evidenceOfNotes();
         evidenceAsKnown();
+        evidenceInItsYear();
         shortIsNotBelowNought();
         payIsCut();
         payByTownAndYear();
@@ -279,6 +280,30 @@ public final class TermsLoadsTest {
         Checks.due("bought for that year alone", 0, () -> x.owes(0, 0, 2, 3, 2));
     }
 
+    private static void evidenceInItsYear() {
+        Checks.part("EVIDENCE and SHORT of a YEAR");
+        PacketLaw x = world(1, 2);
+        x.join(0, 1, 0);
+        x.years(2);
+        x.declare(0, 3, 2, 500);
+        Checks.law(x, 0, "target film 100;");
+        x.load(0, 1000, 0, 0, 0, 100, 0);
+        x.note(0, 3, 70, 1);
+        x.years(3);
+        x.load(0, 1000, 0, 0, 0, 100, 0);
+        x.declare(0, 3, 5, 900);
+        x.note(1, 3, 200, 1);
+        x.note(0, 3, 5, 1);
+        Checks.due("of 2, as known in 2", 70, () -> x.owes(1, 3, 2, 2, 2));
+        Checks.due("short in 2, as known in 2", 430, () -> x.owes(1, 3, 2, 2, 3));
+        Checks.due("of 2, as known in 5", 75, () -> x.owes(1, 3, 2, 5, 2));
+        Checks.due("short in 2, as known in 5", 425, () -> x.owes(1, 3, 2, 5, 3));
+        Checks.due("of 5", 200, () -> x.owes(1, 3, 5, 5, 2));
+        Checks.due("short in 5", 700, () -> x.owes(1, 3, 5, 5, 3));
+        Checks.due("of 0", 0, () -> x.owes(1, 3, 0, 5, 2));
+        Checks.due("the other scheme", 0, () -> x.owes(0, 3, 2, 5, 2));
+    }
+
     private static void shortIsNotBelowNought() {
         Checks.part("SHORT: BOUND less EVIDENCE, 0 at least");
         PacketLaw x = world(1, 1);
@@ -304,8 +329,12 @@ public final class TermsLoadsTest {
         // part of paper (the rest is mixed), kilograms, towns, pay
         int[][] rows = {{100, 999, 1, 0}, {100, 1000, 1, 1}, {100, 1999, 1, 1}, {95, 1000, 20, 19}, {94, 1000, 20, 9}, {85, 1000, 40, 17},
             {84, 1000, 40, 11}, {60, 1000, 100, 20}, {59, 1000, 100, 14}, {1, 20000, 9999, 499}, {100, 20000, 9999, 199980},
-            // 940 times 17 by 1000 is 15, by 2 it is 7; cut once it would be 7.99
-            {94, 1000, 17, 7}, {100, 1000, 0, 0}};
+            // 940 times 17 by 1000 is 15, by 2 it is 7
+            {94, 1000, 17, 7}, {100, 1000, 0, 0},
+            // 50 kilograms at 1000: 50, by 4 it is 12; 99 at 1000: by 2 it is 49, and by 4 24
+            {50, 100, 1000, 12}, {90, 110, 1000, 49}, {50, 199, 1000, 24},
+            // first by the grade it would be 1 kilogram of 7, and 5 coins
+            {50, 14, 5000, 8}};
         for (int[] r : rows) {
             PacketLaw x = world(0, 0);
             Checks.law(x, 0, "towns paper " + r[2] + ";");

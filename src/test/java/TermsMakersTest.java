@@ -33,6 +33,10 @@ public final class TermsMakersTest {
         cheapestOthers();
         cheapestSeven();
         cheapestLayers();
+        cheapestCostOfAllSold();
+        cheapestInItsYear();
+        cheapestGramsBySort();
+        cheapestMakesNothing();
         cheapestFirst();
         cheapestNone();
         cheapestFiveOfFive();
@@ -99,6 +103,11 @@ public final class TermsMakersTest {
             x.make(0, 10 + make, 0, 0, 0, 0, 0);
             Checks.due("a new make changes nothing", 10, () -> x.kilos(0, 0, 0));
         }
+        x.packet(0);
+        x.make(1, 1, 0, 0, 0, 0, 0);
+        x.make(1, 2, 0, 0, 0, 0, 0);
+        Checks.due("another packet's: it was 0", 0, () -> x.made(1, 1));
+        Checks.due("another packet's: it was 1", 1, () -> x.made(1, 1));
         Checks.due("made as the last: it was 0", 0, () -> x.made(0, 4));
         Checks.due("made so from now on", 14, () -> x.kilos(0, 0, 0));
         Checks.due("made as the third: it was 4", 4, () -> x.made(0, 2));
@@ -475,6 +484,17 @@ public final class TermsMakersTest {
         Checks.dueTruth("one is small", true, () -> x.small(9, 0, 0));
         // 10,000,000 of 90,009,998: 11.1
         Checks.due("small ones count among all", 120000, () -> x.fee(0, 0, 0));
+        PacketLaw z = makers(3);
+        z.scheme();
+        z.join(0, 0, 0);
+        z.declare(0, 0, 0, 3000);
+        z.declare(0, 3, 0, 1000);
+        z.declare(1, 0, 0, 1000);
+        z.declare(2, 3, 0, 3000);
+        Checks.law(z, 0, "fee paper=share;fee film=share;least 2000;");
+        // 75 by 3000 and 25 by 1000
+        Checks.due("each sort by itself, small ones and those in no scheme among all", 225 + 25, () -> z.fee(0, 0, 0));
+        Checks.due("the last", 225, () -> z.fee(2, 0, 0));
         PacketLaw y = makers(2);
         y.declare(1, 0, 0, 1000);
         Checks.law(y, 0, "fee paper=100-share;");
@@ -536,6 +556,8 @@ public final class TermsMakersTest {
         x.declare(1, 0, 0, 9000);
         Checks.due("another year is billed by itself", 700, () -> x.bill(0, 1));
         Checks.due("another maker is billed by itself", 900, () -> x.bill(1, 0));
+        Checks.due("billed already, that year", 0, () -> x.bill(0, 1));
+        Checks.due("billed already, that maker", 0, () -> x.bill(1, 0));
         Checks.due("as known now", 500, () -> x.bill(0, 0));
         Checks.law(x, 0, "fee paper=200;");
         Checks.due("by another law", 500, () -> x.bill(0, 0));
@@ -746,6 +768,128 @@ public final class TermsMakersTest {
         Checks.law(x, 0, "fee paper=0;fee glass=100;fee tin=grams*9999;");
         Checks.due("tin by its grams", 1, () -> x.cheapest(0, 0, 0));
         Checks.due("and glass", 1, () -> x.cheapest(0, 0, 1));
+    }
+
+    private static void cheapestCostOfAllSold() {
+        Checks.part("CHEAPEST: COST times SOLD of these PACKETS, those sold ABROAD too");
+        PacketLaw x = makers(1);
+        x.packet(0);
+        x.packet(0);
+        x.make(0, 0, 0, 0, 0, 0, 7);
+        x.make(1, 0, 0, 0, 0, 0, 100);
+        Checks.law(x, 0, "trips 50;");
+        x.sold(0, 0, 90, 90, 50);
+        x.sold(1, 0, 3, 1, 2);
+        Checks.due("90 times 7, 3 times 100", 930, () -> x.cheapest(0, 0, -1));
+    }
+
+    private static void cheapestInItsYear() {
+        Checks.part("CHEAPEST in a YEAR: laws, bans, what is sold and declared, as of that YEAR");
+        PacketLaw x = makers(3);
+        for (int p = 0; p < 7; p++) {
+            x.packet(p == 0 ? 0 : 1);
+            x.make(p, 10, 0, 0, 0, 0, 0);
+            x.make(p, 10, 0, 0, 0, 0, 0);
+            x.sold(p, 0, 100 + p, 0, 1);
+            x.sold(p, 2, p == 6 ? 700 : 60, 0, 1);
+            x.sold(p, 5, 500 + p, 0, 1);
+        }
+        x.declare(2, 0, 0, 70000);
+        x.years(5);
+        x.declare(2, 0, 2, 10000);
+        x.declare(1, 0, 2, 90000);
+        x.declare(0, 0, 2, 30000);
+        x.declare(2, 0, 5, 80000);
+        Checks.law(x, 0, "fee paper=1;");
+        Checks.law(x, 2, "fee paper=year;");
+        Checks.law(x, 5, "fee paper=3;least 9999;");
+        // five times 600 kilograms and one of 7000
+        Checks.due("the fee of that year's law, by that year", 20, () -> x.cheapest(1, 2, -1));
+        Checks.due("of the year before: nothing sold", 0, () -> x.cheapest(1, 1, -1));
+        Checks.law(x, 2, "fee paper=share;");
+        // 10000 of 10000, 10000 and 30000
+        Checks.due("what others declared for that year", 200, () -> x.cheapest(1, 2, -1));
+        Checks.law(x, 3, "fee paper=0;ban paper;");
+        Checks.due("a law of a later year", 200, () -> x.cheapest(1, 2, -1));
+        Checks.due("a ban of a later year", 0, () -> x.cheapest(1, 2, 4));
+        Checks.due("in that one all are banned", -1, () -> x.cheapest(1, 3, -1));
+        Checks.law(x, 2, "least 9999;");
+        Checks.due("not small by true kilos", 200, () -> x.cheapest(1, 2, -1));
+        Checks.due("small by true kilos, whatever is declared: 600", 0, () -> x.cheapest(0, 2, -1));
+        x.declare(1, 0, 2, 0);
+        Checks.due("small by what is declared, not by true kilos", 200, () -> x.cheapest(1, 2, -1));
+        x.declare(1, 0, 2, 9998);
+        Checks.dueTruth("small", true, () -> x.small(1, 2, 5));
+        Checks.due("its own declared ones are not among all", 200, () -> x.cheapest(1, 2, -1));
+    }
+
+    private static void cheapestGramsBySort() {
+        Checks.part("CHEAPEST: grams of that SORT, of the first five and of the others");
+        String[] names = {"paper", "glass", "tin", "film", "mixed"};
+        String none = "fee paper=0;fee glass=0;fee tin=0;fee film=0;fee mixed=0;";
+        for (int sort = 0; sort < 5; sort++) {
+            PacketLaw z = makers(1);
+            for (int p = 0; p < 6; p++) {
+                z.packet(0);
+                z.make(p, sort == 0 ? 1 : 0, sort == 1 ? 1 : 0, sort == 2 ? 1 : 0, sort == 3 ? 1 : 0, sort == 4 ? 1 : 0, 0);
+            }
+            z.sold(5, 0, 1000, 0, 1);
+            Checks.due("kilograms of the sixth alone, of " + names[sort], 100, () -> z.cheapest(0, 0, -1));
+            Checks.due("asked again", 100, () -> z.cheapest(0, 0, -1));
+            PacketLaw y = makers(1);
+            for (int p = 0; p < 7; p++) {
+                y.packet(0);
+                y.make(p, sort == 0 ? 3 : 50, sort == 1 ? 3 : 50, sort == 2 ? 3 : 50, sort == 3 ? 3 : 50, sort == 4 ? 3 : 50, 0);
+            }
+            y.sold(0, 0, 1000, 0, 1);
+            Checks.law(y, 0, none + "fee " + names[sort] + "=grams;");
+            // 3000 kilograms by 21 grams
+            Checks.due("grams of seven packets, of " + names[sort], 63, () -> y.cheapest(0, 0, -1));
+            Checks.due("asked again", 63, () -> y.cheapest(0, 0, -1));
+        }
+        PacketLaw x = makers(1);
+        for (int p = 0; p < 7; p++) {
+            x.packet(0);
+            x.make(p, 1, 2, 3, 4, 5, 0);
+            x.make(p, 5, 4, 3, 2, 1, 0);
+        }
+        x.make(6, 100, 90, 80, 70, 60, 0);
+        x.sold(0, 0, 1000, 0, 1);
+        Checks.law(x, 0, none + "fee mixed=grams;");
+        // 1000 kilograms by 15 grams: five times 1 by the second makes, twice 5 by the first
+        Checks.due("mixed: the second makes of five", 15, () -> x.cheapest(0, 0, -1));
+        for (int k = 0; k < 5; k++) {
+            int packet = k;
+            Checks.due("packet " + k, 1, () -> x.cheapest(0, 0, packet));
+        }
+        x.made(6, 2);
+        Checks.due("60 instead of 5", 70, () -> x.cheapest(0, 0, -1));
+        x.made(6, 0);
+        Checks.due("and back", 15, () -> x.cheapest(0, 0, -1));
+        Checks.law(x, 0, "fee mixed=0;fee film=grams;");
+        // five times 2 grams, twice 4, by 2000 kilograms
+        Checks.due("film", 36, () -> x.cheapest(0, 0, -1));
+    }
+
+    private static void cheapestMakesNothing() {
+        Checks.part("CHEAPEST is asked: no PACKET is made otherwise");
+        PacketLaw x = makers(1);
+        for (int p = 0; p < 6; p++) {
+            x.packet(0);
+            x.make(p, 9, 0, 0, 0, 0, 9);
+            x.make(p, 8, 0, 0, 0, 0, 8);
+            x.make(p, 0, 0, 0, 0, 0, 0);
+            x.sold(p, 0, 1, 0, 1);
+        }
+        x.made(1, 1);
+        Checks.due("for nothing but the sixth's fee", 0, () -> x.cheapest(0, 0, -1));
+        Checks.due("by the last makes", 2, () -> x.cheapest(0, 0, 1));
+        Checks.due("true kilos are as before", 53, () -> x.truly(0, 0, 0));
+        int[] made = {0, 1, 0, 0, 0, 0};
+        for (int p = 0; p < 6; p++) {
+            int packet = p;
+            Checks.due("packet " + p, made[p], () -> x.made(packet, 0));
+        }
     }
 
     private static void cheapestFirst() {

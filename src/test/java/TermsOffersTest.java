@@ -16,6 +16,7 @@ public final class TermsOffersTest {
         noSuchSet();
         allTwelve();
         boughtIsEvidence();
+        boughtForTheSecond();
         schemePays();
         anyYear();
         greatestShort();
@@ -277,6 +278,34 @@ public final class TermsOffersTest {
         Checks.due("together", 131, () -> x.owes(0, 0, 0, 6, 2));
         Checks.due("before", 130, () -> x.owes(0, 0, 0, 5, 2));
         Checks.due("no note was told", 0, () -> x.count(7));
+    }
+
+    private static void boughtForTheSecond() {
+        Checks.part("Bought, they are EVIDENCE for it: for that SCHEME, SORT, YEAR");
+        PacketLaw x = shortOf(10);
+        x.join(0, 1, 3);
+        x.years(4);
+        x.declare(0, 2, 3, 60);
+        x.offer(2, 40, 8);
+        x.offer(2, 30, 9);
+        x.offer(0, 60, 1);
+        Checks.due("of tin, for 3", 3, () -> x.buying(1, 2, 3, 1));
+        Checks.due("bought", 17, () -> x.buy(1, 2, 3));
+        for (int scheme = 0; scheme < 2; scheme++) {
+            for (int sort = 0; sort < 5; sort++) {
+                for (int year = 0; year <= 5; year++) {
+                    int s = scheme;
+                    int of = sort;
+                    int when = year;
+                    boolean here = scheme == 1 && sort == 2 && year == 3;
+                    Checks.due("evidence of " + s + ", sort " + of + ", year " + when, here ? 70 : 0, () -> x.owes(s, of, when, 4, 2));
+                }
+            }
+        }
+        Checks.due("not known in 3", 0, () -> x.owes(1, 2, 3, 3, 2));
+        Checks.due("paid by the second", 17, () -> x.paid(1));
+        Checks.due("paid by the first", 0, () -> x.paid(0));
+        Checks.due("the second is no longer short", 0, () -> x.buying(1, 2, 3, 1));
     }
 
     private static void schemePays() {

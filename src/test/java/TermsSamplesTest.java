@@ -15,6 +15,8 @@ public final class TermsSamplesTest {
         shyBySoMany();
         shyAsKnownNow();
         shyestOfAll();
+        shyestInItsYear();
+        worthInItsYear();
         worthTheWidest();
         worthWithoutSpan();
         triedAsTheLast();
@@ -59,12 +61,15 @@ public final class TermsSamplesTest {
             int when = year;
             Checks.due("of a year up to now", year + 1, () -> y.sample(0, 0, when, 1, 0));
         }
+        y.maker();
+        Checks.due("of another maker: as many as there are in all", 4, () -> y.sample(1, 0, 0, 1, 0));
+        Checks.due("of another sort", 5, () -> y.sample(1, 4, 2, 1, 0));
         Checks.dueThrow("of next year", IllegalArgumentException.class, () -> y.sample(0, 0, 3, 1, 0));
         Checks.dueThrow("none looked at", IllegalArgumentException.class, () -> y.sample(0, 0, 0, 0, 0));
         Checks.dueThrow("1,001 looked at", IllegalArgumentException.class, () -> y.sample(0, 0, 0, 1001, 0));
         Checks.dueThrow("one more than were looked at", IllegalArgumentException.class, () -> y.sample(0, 0, 0, 999, 1000));
         Checks.dueThrow("less than none", IllegalArgumentException.class, () -> y.sample(0, 0, 0, 5, -1));
-        Checks.due("these are none", 3, () -> y.count(10));
+        Checks.due("these are none", 5, () -> y.count(10));
         Checks.due("nor is there a span by them", -1, () -> makers(1).span(0, 0, 0, 0));
     }
 
@@ -268,6 +273,65 @@ public final class TermsSamplesTest {
         Checks.due("maker 0 and sort 0", 0, () -> x.shyest(0));
         Checks.due("another year", -1, () -> x.shyest(1));
         Checks.due("the last year", -1, () -> x.shyest(40));
+    }
+
+    private static void shyestInItsYear() {
+        Checks.part("SHYEST in a YEAR, and SHY: its samples and loads, what is declared for it");
+        PacketLaw x = makers(3);
+        for (int year = 0; year <= 6; year++) {
+            if (year % 2 == 0) {
+                load(x, 1, 1000);
+                load(x, 2, 1000);
+            }
+            if (year < 6) {
+                x.years(1);
+            }
+        }
+        for (int year = 0; year <= 6; year += 2) {
+            x.sample(2, 1, year, 100, 64);
+            x.sample(1, 2, year, 100, 64);
+        }
+        Checks.due("as shy: the first maker", 12, () -> x.shyest(4));
+        x.declare(1, 2, 4, 1);
+        Checks.due("by one less", 21, () -> x.shyest(4));
+        Checks.due("in another year", 12, () -> x.shyest(2));
+        x.declare(1, 2, 2, 2);
+        x.declare(2, 1, 2, 1);
+        x.declare(2, 1, 0, 1);
+        x.declare(2, 1, 6, 1);
+        Checks.due("in 0", 12, () -> x.shyest(0));
+        Checks.due("in 2", 21, () -> x.shyest(2));
+        Checks.due("in 4", 21, () -> x.shyest(4));
+        Checks.due("in 6", 12, () -> x.shyest(6));
+        Checks.due("in 3, without samples", -1, () -> x.shyest(3));
+        Checks.due("by so many in 2", 468, () -> x.shy(1, 2, 2));
+        Checks.due("by so many in 4", 469, () -> x.shy(1, 2, 4));
+        Checks.due("by so many in 6", 470, () -> x.shy(1, 2, 6));
+        Checks.due("not in 3", 0, () -> x.shy(1, 2, 3));
+    }
+
+    private static void worthInItsYear() {
+        Checks.part("WORTH another look in a YEAR: by its samples and loads");
+        PacketLaw x = makers(2);
+        x.years(2);
+        load(x, 3, 1000);
+        load(x, 1, 900);
+        x.years(3);
+        load(x, 2, 1000);
+        load(x, 1, 900);
+        Checks.due("in 2", 3, () -> x.worth(1, 2));
+        Checks.due("in 5", 2, () -> x.worth(1, 5));
+        Checks.due("in 0", 0, () -> x.worth(1, 0));
+        x.sample(1, 3, 2, 1000, 100);
+        Checks.due("a span of 42 of 1000, in 2", 1, () -> x.worth(1, 2));
+        Checks.due("in 5 as before", 2, () -> x.worth(1, 5));
+        x.sample(1, 2, 5, 1000, 100);
+        x.sample(1, 1, 5, 1000, 900);
+        Checks.due("42 of 1000, and 122 of 900, in 5", 1, () -> x.worth(1, 5));
+        x.sample(1, 1, 2, 1000, 0);
+        Checks.due("42 of 1000, and 0.9, in 2", 3, () -> x.worth(1, 2));
+        Checks.due("the other maker in 2", 3, () -> x.worth(0, 2));
+        Checks.due("the other maker in 5", 2, () -> x.worth(0, 5));
     }
 
     private static void worthTheWidest() {

@@ -11,6 +11,8 @@ public final class TermsSchemesTest {
         weightWithoutSmallOnes();
         weightAsKnown();
         boundToHundredths();
+        boundWithoutSmallOnes();
+        boundInItsYear();
         boundWithOrphans();
         orphansToldAnew();
         partedByWeights();
@@ -175,6 +177,56 @@ public final class TermsSchemesTest {
         Checks.due("of all its makers together", 1, () -> y.owes(0, 0, 0, 0, 1));
         Checks.law(y, 1, "target paper 100;");
         Checks.due("by the laws of that year", 1, () -> y.owes(0, 0, 0, 1, 1));
+    }
+
+    private static void boundWithoutSmallOnes() {
+        Checks.part("BOUND: of the WEIGHT, so small ones bind to nothing");
+        PacketLaw x = world(3, 1);
+        for (int m = 0; m < 3; m++) {
+            x.join(m, 0, 0);
+        }
+        x.declare(0, 0, 0, 900);
+        x.declare(1, 0, 0, 100);
+        x.declare(2, 0, 0, 500);
+        Checks.law(x, 0, "target paper 50;");
+        Checks.due("without least", 750, () -> x.owes(0, 0, 0, 0, 1));
+        Checks.law(x, 0, "least 501;");
+        Checks.due("900 alone", 450, () -> x.owes(0, 0, 0, 0, 1));
+        Checks.due("short as much", 450, () -> x.owes(0, 0, 0, 0, 3));
+    }
+
+    private static void boundInItsYear() {
+        Checks.part("BOUND for a YEAR: target, orphans, who is IN, DECLARED, as of that YEAR, whatever is known when");
+        PacketLaw x = world(2, 2);
+        Checks.law(x, 0, "target paper 1;orphans schemes;");
+        Checks.law(x, 3, "target paper 30;orphans makers;");
+        Checks.law(x, 5, "target paper 50;orphans schemes;");
+        x.join(0, 1, 2);
+        x.join(0, 0, 5);
+        x.years(4);
+        x.declare(0, 0, 3, 1000);
+        x.declare(1, 0, 3, 1000);
+        x.declare(0, 0, 4, 70000);
+        x.years(3);
+        x.declare(0, 0, 3, 3000);
+        x.declare(0, 0, 7, 900000);
+        x.orphans(0, 0, 999);
+        x.orphans(0, 3, 40);
+        x.orphans(0, 7, 555);
+        x.orphans(4, 3, 111);
+        Checks.due("weight as known in 4", 1000, () -> x.owes(1, 0, 3, 4, 0));
+        Checks.due("orphans as known in 4: by makers, 1000 of 2000", 20, () -> x.owes(1, 0, 3, 4, 4));
+        Checks.due("bound as known in 4", 320, () -> x.owes(1, 0, 3, 4, 1));
+        Checks.due("short as known in 4", 320, () -> x.owes(1, 0, 3, 4, 3));
+        Checks.due("weight as known in 7", 3000, () -> x.owes(1, 0, 3, 7, 0));
+        Checks.due("orphans as known in 7: 3000 of 4000", 30, () -> x.owes(1, 0, 3, 7, 4));
+        Checks.due("bound as known in 7", 930, () -> x.owes(1, 0, 3, 7, 1));
+        Checks.due("short as known in 7", 930, () -> x.owes(1, 0, 3, 7, 3));
+        Checks.due("bound as known in 3: to nothing", 0, () -> x.owes(1, 0, 3, 3, 1));
+        Checks.due("the scheme of later years", 0, () -> x.owes(0, 0, 3, 7, 1));
+        Checks.due("it is bound in 7: by schemes, all orphans", 450555, () -> x.owes(0, 0, 7, 7, 1));
+        Checks.due("in 4 without orphans", 21000, () -> x.owes(1, 0, 4, 7, 1));
+        Checks.due("in 4 as known in 3", 0, () -> x.owes(1, 0, 4, 3, 1));
     }
 
     private static void boundWithOrphans() {

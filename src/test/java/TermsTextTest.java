@@ -220,6 +220,16 @@ public final class TermsTextTest {
         text("fee paper = min ( 1 , 2 ;", 1, 24);
         text("fee paper = ( ) ;", 1, 14);
         text("fee paper = ( 1 ;", 1, 16);
+        text("fee paper = ( 1 ] ;", 1, 16);
+        text("fee paper = min ( 1 , 2 ] ;", 1, 24);
+        text("fee paper = min [ 1 , 2 ) ;", 1, 16);
+        text("fee paper = - 1 ;", 1, 12);
+        text("fee paper = + 1 ;", 1, 12);
+        text("fee paper = 2 * - 1 ;", 1, 16);
+        text("fee paper = ( - 1 ) ;", 1, 14);
+        text("fee paper = min ( - 1 , 2 ) ;", 1, 18);
+        text("fee paper = * 1 ;", 1, 12);
+        text("fee paper = 1 - - 1 ;", 1, 16);
         text("fee paper = 1 ) ;", 1, 14);
         text("target 1 ;", 1, 7);
         text("target paper ;", 1, 13);
@@ -239,6 +249,9 @@ public final class TermsTextTest {
         text("ban paper if [ ] ;", 1, 15);
         text("ban paper if 1 < 2 ] ;", 1, 19);
         text("ban paper if [ 1 < 2 ;", 1, 21);
+        text("ban paper if [ 1 < 2 ) ;", 1, 21);
+        text("ban paper if - 1 < 2 ;", 1, 13);
+        text("ban paper if 1 < - 2 ;", 1, 17);
         text("ban paper if 1 < = 2 ;", 1, 17);
         text("ban paper if ( 1 < 2 ) ;", 1, 17);
         text("ban paper if not not or 1 < 2 ;", 1, 21);
@@ -425,6 +438,8 @@ public final class TermsTextTest {
                 Checks.due("its place", 9, x::fault);
                 Checks.due("byte " + i + " within a word", -9, () -> Checks.law(x, 0, "fee t" + sign + "in=1;"));
                 Checks.due("the word's place", 4, x::fault);
+                Checks.due("byte " + i + " right behind a word", -9, () -> Checks.law(x, 0, "fee tin" + sign + "=1;"));
+                Checks.due("its own place", 7, x::fault);
             }
         }
         for (char sign : signs.toCharArray()) {
@@ -469,6 +484,14 @@ public final class TermsTextTest {
         text(eight.replace("( ( 1 ) )", "max ( ( 1 ) , min ( ( 3 ) , 4 ) )"), 3, 49);
         text(eight.replace("( ( 1 ) )", "( ( 1 ) + ( ( 2 ) ) )"), 3, 41);
         fits(eight.replace("( ( 1 ) )", "( ( 1 ) + ( 2 ) ) * ( ( 3 ) )"));
+        // on the right of each sign as well
+        for (String sign : new String[] {"+", "-", "*", "/", "+2*", "*2-"}) {
+            fits("fee tin=1" + sign + "((((((((2))))))));");
+            text("fee tin=1" + sign + "(((((((((2)))))))));", 3, 17 + sign.length());
+            text("fee tin=((1" + sign + "(((((((2)))))))));", 3, 17 + sign.length());
+            text("ban tin if not 1" + sign + "((((((((2))))))))<3;", 3, 23 + sign.length());
+            text("ban tin if not 3>1" + sign + "((((((((2))))))));", 3, 25 + sign.length());
+        }
         // what is closed is open no longer: many more than eight, one behind the other
         fits("fee tin=" + Checks.times("(1)+", 20) + "(2);");
         fits("fee tin=" + Checks.times("min(1,2)*", 12) + "max(1,2);");

@@ -4,7 +4,7 @@ import java.util.Random;
 final class TextMaker {
     private static final String[] SORTS = {"paper", "glass", "tin", "film", "mixed"};
     private static final String[] FACTS = {"year", "kilos", "share", "grams", "layers"};
-    private static final String SIGNS = " ;=+-*/(),[]<>09anot\u00ff\u0000";
+    private static final String SIGNS = " ;=+-*/(),[]<>09anotAZ\u00ff\u0000";
 
     private final Random random;
     private final StringBuilder text = new StringBuilder();
