@@ -390,6 +390,12 @@ public final class TermsMakersTest {
             x.declare(0, sort, 0, 999);
         }
         Checks.due("five times 0.999", 0, () -> x.fee(0, 0, 0));
+        PacketLaw y = makers(1);
+        Checks.law(y, 0, "fee tin=9999*11;");
+        y.declare(0, 2, 0, 1);
+        Checks.due("one kilogram at the highest", 100, () -> y.fee(0, 0, 0));
+        y.declare(0, 1, 0, 10);
+        Checks.due("ten more without a law", 101, () -> y.fee(0, 0, 0));
         for (int sort = 0; sort < 5; sort++) {
             x.declare(0, sort, 0, 10000000);
         }

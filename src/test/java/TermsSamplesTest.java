@@ -332,6 +332,10 @@ public final class TermsSamplesTest {
         Checks.due("42 of 1000, and 0.9, in 2", 3, () -> x.worth(1, 2));
         Checks.due("the other maker in 2", 3, () -> x.worth(0, 2));
         Checks.due("the other maker in 5", 2, () -> x.worth(0, 5));
+        load(x, 0, 900);
+        x.sample(1, 0, 5, 1, 1);
+        Checks.due("3600 of 900, in 5", 0, () -> x.worth(1, 5));
+        Checks.due("the other maker has no part in it", 2, () -> x.worth(0, 5));
     }
 
     private static void worthTheWidest() {

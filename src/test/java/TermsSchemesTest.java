@@ -20,6 +20,7 @@ public final class TermsSchemesTest {
         nobodyHasAny();
         orphansByMakers();
         orphansBySchemes();
+        moreSchemesThanMakers();
         orphansAsKnown();
         greatestAmounts();
         Checks.end();
@@ -403,6 +404,26 @@ public final class TermsSchemesTest {
         // 2.5 each: two are over, for makers 0 and 1
         Checks.due("by makers", 3, () -> x.owes(0, 0, 0, 0, 4));
         Checks.due("by makers", 5, () -> x.owes(2, 0, 0, 0, 4));
+    }
+
+    private static void moreSchemesThanMakers() {
+        Checks.part("by makers, where there are fewer MAKERS than SCHEMES");
+        PacketLaw x = world(2, 4);
+        Checks.law(x, 0, "towns paper 1000;");
+        x.load(0, 90, 100, 0, 0, 0, 0);
+        x.join(0, 3, 0);
+        x.join(1, 2, 0);
+        x.declare(0, 0, 0, 1);
+        x.declare(1, 0, 0, 2);
+        x.orphans(0, 0, 30);
+        long[] want = {0, 0, 20, 10};
+        for (int asked = 0; asked < 2; asked++) {
+            for (int s = 3; s >= 0; s--) {
+                int scheme = s;
+                Checks.due("pay by " + s, 3 * want[s], () -> x.pay(0, 0, scheme));
+                Checks.due("orphans of " + s, want[s], () -> x.owes(scheme, 0, 0, 0, 4));
+            }
+        }
     }
 
     private static void orphansAsKnown() {

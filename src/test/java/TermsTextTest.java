@@ -36,6 +36,7 @@ public final class TermsTextTest {
         inForce();
         theLastOneCounts();
         oneMoreBan();
+        nothingOfSpoiltTexts();
         without();
         Checks.end();
     }
@@ -809,6 +810,35 @@ public final class TermsTextTest {
             Checks.dueTruth(laws[i] + " and one from 3 on, in 2", want[i], () -> x.banned(0, 0, 2));
             Checks.dueTruth(laws[i] + " and one from 3 on, in 3", true, () -> x.banned(0, 0, 3));
         }
+    }
+
+    private static void nothingOfSpoiltTexts() {
+        Checks.part("a text with a FAULT is no LAW: nothing of it stands in the next one");
+        String[] spoilt = {"least 1;ban tin;?", "ban tin if not 1=1;?", "ban tin if 1=1 and not 1=2", "ban tin if not [1=1 and 2=2];fee tin=x;"};
+        String[] laws = {"least 1;", "ban tin if 1=2;", "ban film;ban tin if 1=2 and 1=1;", ""};
+        for (String text : spoilt) {
+            for (String law : laws) {
+                PacketLaw x = new PacketLaw();
+                x.maker();
+                x.packet(0);
+                x.make(0, 0, 0, 1, 0, 0, 0);
+                Checks.due(text, -9, () -> Checks.law(x, 0, text));
+                Checks.due(law + " behind " + text, 0, () -> Checks.law(x, 0, law));
+                Checks.dueTruth("no ban of it", false, () -> x.banned(0, 0, 0));
+                Checks.due("nor a least", law.startsWith("least") ? 1 : 0, () -> x.tells(0, 0, 3));
+            }
+        }
+        PacketLaw y = new PacketLaw();
+        y.maker();
+        y.packet(0);
+        y.make(0, 0, 0, 1, 0, 0, 0);
+        Checks.due("spoilt", -9, () -> Checks.law(y, 0, "ban tin if not 1=1;?"));
+        Checks.due("a law of the same beginning", 0, () -> Checks.law(y, 0, "ban tin if 1=1;"));
+        Checks.dueTruth("holds", true, () -> y.banned(0, 0, 0));
+        Checks.due("tried", 0, () -> Checks.tried(y, 0, 0, "least 3;ban film if not 2=2;trips 7;"));
+        Checks.due("a law behind it", 1, () -> Checks.law(y, 0, "least 2;"));
+        Checks.due("least", 2, () -> y.tells(0, 0, 3));
+        Checks.due("trips", 1, () -> y.tells(0, 0, 4));
     }
 
     private static void without() {
