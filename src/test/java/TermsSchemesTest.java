@@ -21,6 +21,7 @@ public final class TermsSchemesTest {
         orphansByMakers();
         orphansBySchemes();
         moreSchemesThanMakers();
+        fewerSchemesThanMakers();
         orphansAsKnown();
         greatestAmounts();
         Checks.end();
@@ -423,6 +424,28 @@ public final class TermsSchemesTest {
                 Checks.due("pay by " + s, 3 * want[s], () -> x.pay(0, 0, scheme));
                 Checks.due("orphans of " + s, want[s], () -> x.owes(scheme, 0, 0, 0, 4));
             }
+        }
+    }
+
+    private static void fewerSchemesThanMakers() {
+        Checks.part("by schemes, where there are more MAKERS than SCHEMES");
+        PacketLaw x = world(3, 2);
+        Checks.law(x, 0, "towns paper 1000;");
+        x.join(0, 0, 0);
+        x.join(1, 1, 0);
+        x.declare(0, 0, 0, 50);
+        x.declare(1, 0, 0, 50);
+        x.declare(2, 0, 0, 49);
+        x.orphans(0, 0, 1);
+        x.years(1);
+        x.declare(0, 0, 1, 1);
+        x.declare(1, 0, 1, 2);
+        x.load(0, 1, 100, 0, 0, 0, 0);
+        for (int asked = 0; asked < 2; asked++) {
+            Checks.due("the orphan of three makers", 1, () -> x.owes(0, 0, 0, 1, 4));
+            Checks.due("a third of a coin", 0, () -> x.pay(0, 1, 0));
+            Checks.due("the orphan of three makers", 0, () -> x.owes(1, 0, 0, 1, 4));
+            Checks.due("two thirds of a coin", 1, () -> x.pay(0, 1, 1));
         }
     }
 
